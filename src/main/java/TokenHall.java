@@ -32,6 +32,7 @@ public final class TokenHall {
     private final Base keptBase = new Base();
     private final Base roundBase = new Base();
     private final Shape shape = new Shape();
+    private final int[] trial = new int[SIDE];
     private Net net = new Net();
     private Net draft = new Net();
     private int tapeSize;
@@ -165,13 +166,13 @@ public final class TokenHall {
     }
 
     public int judge() {
-        int[] marks = walker().from(net, now.marks);
+        System.arraycopy(now.marks, 0, trial, 0, SIDE);
         for (int i = 0; i < now.rowSize; i++) {
-            int error = net.errsBy(now.row[i], marks);
+            int error = net.errsBy(now.row[i], trial);
             if (error != 0) {
                 return 10 * i + error;
             }
-            net.carryOut(now.row[i], marks);
+            net.carryOut(now.row[i], trial);
         }
         return NONE;
     }
@@ -490,9 +491,9 @@ public final class TokenHall {
         if (!net.fits(ahead, now.marks, 0)) {
             return false;
         }
-        int[] marks = walker().from(net, now.marks);
-        net.carryOut(ahead, marks);
-        return net.fits(act, marks, 0);
+        System.arraycopy(now.marks, 0, trial, 0, SIDE);
+        net.carryOut(ahead, trial);
+        return net.fits(act, trial, 0);
     }
 
     private Graph explored(int most) {
@@ -1485,7 +1486,6 @@ public final class TokenHall {
         private long[] counts = new long[Graph.ROWS];
         private long[] freshCounts = new long[Graph.ROWS];
         private int groupCount;
-        private int numbered;
         private int grouped;
         private int pathSize;
         private int pileSize;
@@ -1494,7 +1494,6 @@ public final class TokenHall {
         void tie(int ofVersion) {
             version = ofVersion;
             groupCount = 0;
-            numbered = 0;
             grouped = 0;
             pathSize = 0;
             pileSize = 0;
@@ -1513,9 +1512,9 @@ public final class TokenHall {
         }
 
         private void enterState(int state) {
-            numbered++;
-            numbers[state] = numbered;
-            lows[state] = numbered;
+            int number = pileSize + grouped + 1;
+            numbers[state] = number;
+            lows[state] = number;
             edges[state] = 0;
             groups[state] = NONE;
             path[pathSize] = state;
@@ -1922,14 +1921,8 @@ public final class TokenHall {
         final int[] marks = new int[SIDE];
         private final Table table = new Table(SIDE, STATES_MOST, 8192);
 
-        /** A copy to walk on. */
-        int[] from(Net net, int[] start) {
-            System.arraycopy(start, 0, marks, 0, net.places);
-            return marks;
-        }
-
         int byLots(Net net, int[] start, int n, int firstSeed) {
-            from(net, start);
+            System.arraycopy(start, 0, marks, 0, SIDE);
             int seed = firstSeed;
             for (int done = 0; done < n; done++) {
                 int able = net.ableActs(marks);
@@ -1957,7 +1950,7 @@ public final class TokenHall {
             came = NONE;
             later = NONE;
             endless = false;
-            from(net, start);
+            System.arraycopy(start, 0, marks, 0, SIDE);
             table.wipe(net.places);
             for (int done = 0; done < STATES_MOST; done++) {
                 int known = table.size;
