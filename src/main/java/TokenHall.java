@@ -824,32 +824,22 @@ public final class TokenHall {
                 at++;
             }
             end = at;
-            if (at >= size) {
-                kind = END;
-            } else if (isDigit(at)) {
+            kind = END;
+            value = 0;
+            while (end < size && text[end] >= '0' && text[end] <= '9') {
                 kind = NUMBER;
-                value = 0;
-                for (; end < size && isDigit(end); end++) {
-                    value = Math.min(BIG, value * 10 + text[end] - '0');
-                }
-            } else if (isLetter(at)) {
+                value = Math.min(BIG, value * 10 + text[end] - '0');
+                end++;
+            }
+            while (end < size && kind != NUMBER && text[end] >= 'a' && text[end] <= 'z') {
                 kind = WORD;
-                while (end < size && isLetter(end)) {
-                    end++;
-                }
-            } else {
+                end++;
+            }
+            if (at < size && kind == END) {
                 kind = SIGN;
                 value = text[at];
                 end = at + 1;
             }
-        }
-
-        private boolean isDigit(int i) {
-            return text[i] >= '0' && text[i] <= '9';
-        }
-
-        private boolean isLetter(int i) {
-            return text[i] >= 'a' && text[i] <= 'z';
         }
 
         private boolean isWord(String word) {
@@ -896,23 +886,19 @@ public final class TokenHall {
             if (number >= CLAUSES_MOST) {
                 return fails(TOO_MANY, at);
             }
-            return readKnownClause() && takeSign(';');
-        }
-
-        private boolean readKnownClause() {
+            boolean fine;
             if (isWord("place")) {
-                return readPlace();
+                fine = readPlace();
+            } else if (isWord("act")) {
+                fine = readAct();
+            } else if (isWord("lasts")) {
+                fine = readLasts();
+            } else if (isWord("if")) {
+                fine = readIf();
+            } else {
+                fine = readArc();
             }
-            if (isWord("act")) {
-                return readAct();
-            }
-            if (isWord("lasts")) {
-                return readLasts();
-            }
-            if (isWord("if")) {
-                return readIf();
-            }
-            return readArc();
+            return fine && takeSign(';');
         }
 
         /** The arcs that the word tells of; null if it tells of none. */
@@ -1051,10 +1037,6 @@ public final class TokenHall {
                 open--;
                 return true;
             }
-            return readComparison();
-        }
-
-        private boolean readComparison() {
             if (!readSum()) {
                 return false;
             }
@@ -1478,7 +1460,8 @@ public final class TokenHall {
         // Groups are states that can be come to from one another; those come to last are first.
         private final int[] groups = new int[Graph.ROWS];
         private final int[] sorted = new int[Graph.ROWS];
-        private final boolean[] open = new boolean[Graph.ROWS];
+        // 1 for a group from which some other one can be come to.
+        private final int[] open = new int[Graph.ROWS];
         private final int[] costs = new int[Graph.ROWS];
         private final int[] after = new int[Graph.ROWS];
         private final int[] before = new int[Graph.ROWS];
@@ -1556,18 +1539,18 @@ public final class TokenHall {
         }
 
         private void findKnots() {
-            Arrays.fill(open, false);
+            Arrays.fill(open, 0);
             for (int s = 0; s < graph.size(); s++) {
                 for (int act = 0; act < graph.net.acts; act++) {
                     int next = graph.leads[s * SIDE + act];
                     if (next != NONE && groups[next] != groups[s]) {
-                        open[groups[s]] = true;
+                        open[groups[s]] = 1;
                     }
                 }
             }
             knotCount = 0;
             for (int group = 0; group < groupCount; group++) {
-                knotCount += open[group] ? 0 : 1;
+                knotCount += 1 - open[group];
             }
         }
 
@@ -1578,7 +1561,7 @@ public final class TokenHall {
             }
             int count = 0;
             for (int s = 0; s < graph.size(); s++) {
-                count += open[groups[s]] ? 0 : 1;
+                count += 1 - open[groups[s]];
             }
             return count;
         }
@@ -1597,7 +1580,7 @@ public final class TokenHall {
                 return 0;
             }
             for (int group = 0; group < groupCount; group++) {
-                if (!open[group] && lows[group] == 0) {
+                if (open[group] == 0 && lows[group] == 0) {
                     return 1;
                 }
             }
@@ -1837,7 +1820,9 @@ public final class TokenHall {
             length = NONE;
             Arrays.fill(state, 0);
             System.arraycopy(marks, 0, state, 0, net.places);
-            Arrays.fill(begun, 0, SIDE, 0);
+            for (int act = 0; act < SIDE; act++) {
+                begun[act] = 0;
+            }
             table.wipe(net.places + net.acts);
             table.enter(state);
         }
@@ -1941,7 +1926,7 @@ public final class TokenHall {
             for (int i = 0; i < number && i < SIDE; i++) {
                 rest &= rest - 1;
             }
-            return Math.min(SIDE - 1, Integer.numberOfTrailingZeros(rest));
+            return Math.min(SIDE - 1, Integer.bitCount((rest & -rest) - 1));
         }
 
         void leastFirst(Net net, int[] start, int ofVersion) {
