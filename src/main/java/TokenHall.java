@@ -1809,6 +1809,7 @@ public final class TokenHall {
         int from = NONE;
         int length = NONE;
         private final Table table = new Table(2 * SIDE, ROWS, 4096);
+        // How often each act began ahead of each moment; ahead of the first one never.
         private final int[] begun = new int[(ROWS + 1) * SIDE];
         private final int[] state = new int[2 * SIDE];
         private Net net;
@@ -1820,9 +1821,6 @@ public final class TokenHall {
             length = NONE;
             Arrays.fill(state, 0);
             System.arraycopy(marks, 0, state, 0, net.places);
-            for (int act = 0; act < SIDE; act++) {
-                begun[act] = 0;
-            }
             table.wipe(net.places + net.acts);
             table.enter(state);
         }

@@ -42,6 +42,7 @@ public final class OracleTest {
             change();
             now();
             searches();
+            aims();
             wholes();
             walks();
         }
@@ -177,6 +178,23 @@ public final class OracleTest {
         Checks.same(here + "needed", hall.needed(most, above, act), due.needed(most, above, act));
         Checks.same(here + "deepest 0", hall.deepest(most, 0), due.deepest(most, 0));
         Checks.same(here + "deepest 1", hall.deepest(most, 1), due.deepest(most, 1));
+    }
+
+    /** To each of some states that come, and to none that does. */
+    private void aims() {
+        List<int[]> states = due.come(60, -1);
+        for (int i = 0; i < 5; i++) {
+            int[] aim = states.get(chance.nextInt(states.size()));
+            for (int p = 0; p < net.places; p++) {
+                due.goals[p] = Math.min(99, aim[p]);
+                hall.goal(p, due.goals[p]);
+            }
+            Checks.same(name + "cheapest to a state", hall.cheapest(60, false), due.cheapest(60, false));
+            Checks.same(name + "way to a state", hall.way(60, false), due.way(60, false));
+            for (int t = 0; t < net.acts; t++) {
+                Checks.same(name + "needed for a state", hall.needed(60, true, t), due.needed(60, true, t));
+            }
+        }
     }
 
     private void wholes() {

@@ -110,6 +110,12 @@ public final class TextTest {
     private static void faultsOfWhatCannotStand() {
         Checks.fault("places 1;", 1, 0);
         Checks.fault("  Place 1;", 1, 2);
+        Checks.fault("placez 1;", 1, 0);
+        Checks.fault("zplace 1;", 1, 0);
+        Checks.fault("place{1;", 1, 5);
+        Checks.fault("place`1;", 1, 5);
+        Checks.fault("place/1;", 1, 5);
+        Checks.fault("place:1;", 1, 5);
         Checks.fault("5", 1, 0);
         Checks.fault(";", 1, 0);
         Checks.fault("place ;", 1, 6);

@@ -270,6 +270,7 @@ public final class WholesTest {
         }
         Checks.same("a ring turns", Checks.hall(ring.toString()).alike(), 8);
         Checks.same("a cube turns in 48 ways", Checks.hall(cube.toString()).alike(), 48);
+        Checks.same("each place once", Checks.hall("place 0;place 0;place 0;act 0;act 0;in 0 0 1;in 0 1 1;in 1 2 1;").alike(), 2);
         Checks.same("two like acts are still two", Checks.hall("place 0;place 0;act 0;act 0;act 0;in 0 0 1;in 1 0 1;in 2 1 1;").alike(), 1);
     }
 }
