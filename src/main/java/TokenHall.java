@@ -220,7 +220,7 @@ public final class TokenHall {
         if (what == 1) {
             return k.homes() == g.size() ? 1 : 0;
         }
-        return k.knotCount;
+        return k.knotCount();
     }
 
     public int most(int most, int place) throws IndexOutOfBoundsException, IllegalArgumentException {
@@ -1450,7 +1450,6 @@ public final class TokenHall {
         private static final int BUCKETS = COST_MOST + 1;
 
         int version = NONE;
-        int knotCount;
         Graph graph;
         private final int[] numbers = new int[Graph.ROWS];
         private final int[] lows = new int[Graph.ROWS];
@@ -1491,7 +1490,7 @@ public final class TokenHall {
                     leaveState(state);
                 }
             }
-            findKnots();
+            findOpen();
         }
 
         private void enterState(int state) {
@@ -1538,7 +1537,7 @@ public final class TokenHall {
             }
         }
 
-        private void findKnots() {
+        private void findOpen() {
             Arrays.fill(open, 0);
             for (int s = 0; s < graph.size(); s++) {
                 for (int act = 0; act < graph.net.acts; act++) {
@@ -1548,15 +1547,19 @@ public final class TokenHall {
                     }
                 }
             }
-            knotCount = 0;
+        }
+
+        int knotCount() {
+            int count = 0;
             for (int group = 0; group < groupCount; group++) {
-                knotCount += 1 - open[group];
+                count += 1 - open[group];
             }
+            return count;
         }
 
         /** A home lies in the only knot there is: from one of two knots the other is not come to. */
         int homes() {
-            if (knotCount != 1) {
+            if (knotCount() != 1) {
                 return 0;
             }
             int count = 0;
