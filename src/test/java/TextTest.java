@@ -11,6 +11,7 @@ public final class TextTest {
         faultsOfTooMany();
         faultsOfNothing();
         faultLeavesTheNet();
+        manyLongTexts();
         toldAndArcs();
         marksAndPut();
         Checks.end();
@@ -221,6 +222,18 @@ public final class TextTest {
         Checks.same("rows are gone", h.count(0), 0);
         Checks.same("images are gone", h.count(1), 0);
         Checks.same("goals are gone", h.goal(0, 8), 0);
+    }
+
+    /** Conditions as long as a text can have them, told again and again to one hall. */
+    private static void manyLongTexts() {
+        TokenHall h = new TokenHall();
+        for (int i = 0; i < 8; i++) {
+            String sum = "1" + "+1".repeat(260);
+            Checks.same("a long text", Checks.tell(h, "place 0;act 0;if 0 " + sum + "=" + (261 + i % 2) + ";"), 1);
+            Checks.same("its condition", h.may(0), i % 2 == 0 ? 0 : 3);
+            Checks.same("no condition", Checks.tell(h, "place 0;act 0;act 1;"), 1);
+            Checks.same("no condition", h.act(0, 2) + h.may(0), 0);
+        }
     }
 
     private static void toldAndArcs() {
