@@ -172,6 +172,14 @@ public final class StatesTest {
         h.goal(2, 3);
         Checks.same("they don't come", h.cheapest(9, false), -1);
         Checks.same("full", h.cheapest(2, true), FULL);
+        TokenHall fan = Checks.hall("place 1;place 0;place 0;place 0;place 0;act 10;act 10;act 10;act 5;act 1;"
+                + "in 0 0 1;out 0 1 1;in 1 0 1;out 1 2 1;in 2 0 1;out 2 3 1;in 3 0 1;out 3 4 1;in 4 4 1;out 4 2 1;");
+        int[] due = {0, 10, 6, 10, 5};
+        for (int p = 0; p < 5; p++) {
+            fan.goal(p, 1);
+            Checks.same("one that becomes cheaper among like ones, " + p, fan.cheapest(9, false), due[p]);
+            fan.goal(p, 0);
+        }
         StringBuilder dear = new StringBuilder("place 99;place 0;act 99;act 98;act 97;");
         dear.append("in 0 0 1;out 0 1 1;in 1 0 1;out 1 1 1;in 2 0 1;");
         TokenHall far = Checks.hall(dear.toString());
