@@ -305,7 +305,7 @@ public final class TokenHall {
     }
 
     public boolean is(int bits, int what) throws IllegalArgumentException {
-        needWithin(bits, 0, (1 << net.places) - 1);
+        needWithin(bits, 1, (1 << net.places) - 1);
         needWithin(what, 0, 2);
         if (what == 2) {
             return Shape.holdsIn(net, bits, false) && Shape.guards(net, bits, now.marks);
@@ -2000,7 +2000,7 @@ public final class TokenHall {
             return false;
         }
 
-        /** Whether places are a siphon, or a trap. */
+        /** Whether places (one at least) are a siphon, or a trap. */
         static boolean holdsIn(Net net, int bits, boolean trap) {
             for (int act = 0; act < net.acts; act++) {
                 boolean takes = (net.takesFrom[act] & bits) != 0;
@@ -2009,7 +2009,7 @@ public final class TokenHall {
                     return false;
                 }
             }
-            return bits != 0;
+            return true;
         }
 
         static boolean guards(Net net, int bits, int[] marks) {

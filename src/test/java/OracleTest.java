@@ -110,7 +110,7 @@ public final class OracleTest {
         Checks.same(name + "never", hall.never(), due.never());
         Checks.same(name + "once", hall.once(), due.once());
         for (int i = 0; i < 6; i++) {
-            int bits = chance.nextInt(1 << net.places);
+            int bits = 1 + chance.nextInt((1 << net.places) - 1);
             Checks.same(name + "is 0 " + bits, hall.is(bits, 0), due.is(bits, false));
             Checks.same(name + "is 1 " + bits, hall.is(bits, 1), due.is(bits, true));
             Checks.same(name + "is 2 " + bits, hall.is(bits, 2), due.guarded(bits));

@@ -41,7 +41,7 @@ public final class TextTest {
         Checks.same("new never", h.never(), false);
         Checks.same("new growth", h.growth(), 1);
         Checks.same("new siphon", h.siphon(true, 0), 0);
-        Checks.same("new is", h.is(0, 0), false);
+        Checks.fails("new is of none", Checks.BAD, () -> h.is(0, 0));
         Checks.fails("new is of a place", Checks.BAD, () -> h.is(1, 0));
         Checks.same("new once", h.once(), 0);
         Checks.same("new period", h.period(1), 1);

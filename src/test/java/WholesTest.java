@@ -134,10 +134,14 @@ public final class WholesTest {
         Checks.same("more than the least", h.is(7, 0), true);
         Checks.same("is a trap", h.is(4, 1), true);
         Checks.same("is no trap", h.is(2, 1), false);
-        Checks.same("no place is none", h.is(0, 0), false);
-        Checks.same("no place is none", h.is(0, 1), false);
+        Checks.same("the greatest bits", h.is(7, 1), true);
+        for (int what = 0; what < 3; what++) {
+            int asked = what;
+            Checks.fails("no bits", Checks.BAD, () -> h.is(0, asked));
+        }
         Checks.fails("siphon -1", Checks.BAD, () -> h.siphon(false, -1));
         Checks.fails("bits of none", Checks.BAD, () -> h.is(8, 0));
+        Checks.fails("bits of a place and of none", Checks.BAD, () -> h.is(9, 0));
         Checks.fails("bits below 0", Checks.BAD, () -> h.is(-1, 0));
         Checks.fails("is what", Checks.BAD, () -> h.is(1, 3));
         Checks.fails("is what below", Checks.BAD, () -> h.is(1, -1));
