@@ -1,5 +1,6 @@
 import java.nio.charset.StandardCharsets;
 import java.util.Arrays;
+import java.util.function.Consumer;
 
 /** What all tests share: telling texts to a hall, and judging answers. */
 final class Checks {
@@ -9,16 +10,27 @@ final class Checks {
 
     private static int wrong;
     private static int judged;
+    // The document's words that the answers judged now belong to; empty outside the tests of edges.
+    private static String sentence = "";
 
     private Checks() {
+    }
+
+    /** What is judged from here on belongs to these words of the document. */
+    static void of(String words) {
+        sentence = "[" + words + "] ";
     }
 
     static void same(String what, long got, long due) {
         judged++;
         if (got != due) {
-            wrong++;
-            System.out.println(what + " answered " + got + ", due is " + due);
+            tellWrong(what + " answered " + got + ", due is " + due);
         }
+    }
+
+    private static void tellWrong(String what) {
+        wrong++;
+        System.out.println(sentence + what);
     }
 
     static void same(String what, boolean got, boolean due) {
@@ -36,8 +48,63 @@ final class Checks {
             }
             got = e.toString();
         }
-        wrong++;
-        System.out.println(what + " threw " + got + ", due is " + due.getName());
+        tellWrong(what + " threw " + got + ", due is " + due.getName());
+    }
+
+    /** A hall of two places and two acts in which nothing is as it was at first. */
+    static TokenHall busy() {
+        TokenHall hall = hall("place 2;place 0 room 3;act 4;act 7;in 0 0 1;out 0 1 1;in 1 1 1;out 1 0 1;");
+        hall.fire(0);
+        hall.goal(1, 2);
+        hall.row(0);
+        hall.row(1);
+        hall.image();
+        tell(hall, "places");
+        hall.feed(1, 2, 3, 4, 5);
+        return hall;
+    }
+
+    /** The call throws on a busy hall, and all that can be asked for is as it was. */
+    static void refused(String what, Class<? extends RuntimeException> due, Consumer<TokenHall> call) {
+        TokenHall hall = busy();
+        String before = look(hall);
+        fails(what, due, () -> call.accept(hall));
+        stays(what, hall, before);
+    }
+
+    /** Each call throws what is due on a hall without a net. */
+    static void refusedWithoutNet(String what, Class<? extends RuntimeException> due, Consumer<TokenHall> call) {
+        fails(what + " without a net", due, () -> call.accept(new TokenHall()));
+    }
+
+    static void stays(String what, TokenHall hall, String before) {
+        judged++;
+        String now = look(hall);
+        if (!now.equals(before)) {
+            tellWrong(what + " changed " + before + " to " + now);
+        }
+    }
+
+    /** All that calls can change, as far as asking changes nothing: net, marks, goals, rows, images, tape, fault. */
+    static String look(TokenHall hall) {
+        StringBuilder seen = new StringBuilder();
+        int places = hall.told(0);
+        int acts = hall.told(1);
+        seen.append(places).append(" places ").append(acts).append(" acts;");
+        for (int p = 0; p < places; p++) {
+            int goal = hall.goal(p, 0);
+            hall.goal(p, goal);
+            seen.append(' ').append(hall.marks(p, 0)).append('/').append(hall.marks(p, 1)).append('/').append(goal);
+        }
+        for (int t = 0; t < acts; t++) {
+            seen.append(" act ").append(hall.act(t, 0)).append('/').append(hall.act(t, 1)).append('/').append(hall.act(t, 2));
+            for (int cell = 0; cell < 3 * places; cell++) {
+                seen.append(' ').append(hall.arc(t, cell / 3, cell % 3));
+            }
+        }
+        seen.append("; rows ").append(hall.count(0)).append(" judged ").append(hall.judge());
+        seen.append(" images ").append(hall.count(1)).append(" tape ").append(hall.count(2));
+        return seen.append(" fault ").append(hall.fault()).toString();
     }
 
     /** Feeds the bytes of a text, and answers how many there are; the rest of the tape is 0. */
@@ -64,8 +131,7 @@ final class Checks {
         TokenHall hall = new TokenHall();
         int places = tell(hall, text);
         if (places < 1) {
-            wrong++;
-            System.out.println("not a net: " + text + " (" + places + " at " + hall.fault() + ")");
+            tellWrong("not a net: " + text + " (" + places + " at " + hall.fault() + ")");
         }
         return hall;
     }
@@ -75,6 +141,18 @@ final class Checks {
         TokenHall hall = new TokenHall();
         same("net of '" + text + "'", tell(hall, text), number - 10);
         same("fault of '" + text + "'", hall.fault(), at);
+    }
+
+    /** Of a text with a fault that begins with the rest. */
+    static void faultAt(String ahead, String rest, int number) {
+        fault(ahead + rest, number, ahead.length());
+    }
+
+    /** Of a text without a fault: how many places it has. */
+    static void good(String text, int places) {
+        TokenHall hall = new TokenHall();
+        same("net of '" + text + "'", tell(hall, text), places);
+        same("fault of '" + text + "'", hall.fault(), TokenHall.NONE);
     }
 
     static boolean fine() {
