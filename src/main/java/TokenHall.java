@@ -1702,7 +1702,7 @@ public final class TokenHall {
             costs[0] = 0;
             after[0] = 0;
             int come = 1;
-            for (int i = 0; i < come; i++) {
+            for (int i = 0; i < come && i < Graph.ROWS; i++) {
                 int state = after[i];
                 if (graph.isMeeting(state, goals, above)) {
                     return true;

@@ -107,6 +107,36 @@ final class Checks {
         return seen.append(" fault ").append(hall.fault()).toString();
     }
 
+    /** What a hall answers to most calls that change nothing, as one text. */
+    static String answers(TokenHall hall) {
+        StringBuilder all = new StringBuilder(look(hall)).append("; ").append(hall.looks()).append(' ');
+        all.append(hall.once()).append(' ').append(hall.alike()).append(' ').append(hall.never()).append(" base");
+        int places = hall.told(0);
+        int acts = hall.told(1);
+        for (int cell = 0; cell < hall.base(0) * places; cell++) {
+            all.append(' ').append(hall.kept(cell / places, cell % places));
+        }
+        for (int cell = 0; cell < hall.base(1) * acts; cell++) {
+            all.append(' ').append(hall.round(cell / acts, cell % acts));
+        }
+        all.append(" growth ").append(hall.growth()).append(" states ").append(hall.states(60));
+        for (int p = 0; p < places; p++) {
+            all.append(' ').append(hall.bound(p)).append('/').append(hall.most(60, p)).append('/').append(hall.clock(9, p));
+            all.append('/').append(hall.lot(9, 9, p)).append('/').append(hall.state(60, 1, p));
+        }
+        for (int t = 0; t < acts; t++) {
+            all.append(' ').append(hall.may(t)).append('/').append(hall.lives(60, t)).append('/').append(hall.often(60, t));
+            all.append('/').append(hall.began(9, t)).append('/').append(hall.beat(t)).append('/').append(hall.needed(60, true, t));
+        }
+        for (int what = 0; what < 2; what++) {
+            all.append(' ').append(hall.home(60, 2 * what)).append('/').append(hall.deepest(60, what)).append('/');
+            all.append(hall.period(what)).append('/').append(hall.first(what)).append('/').append(hall.dead(60, what));
+            all.append('/').append(hall.siphon(what == 1, 0)).append('/').append(hall.way(60, what == 1)).append('/');
+            all.append(hall.cheapest(60, what == 1)).append('/').append(hall.rows(60, 2 + what));
+        }
+        return all.toString();
+    }
+
     /** Feeds the bytes of a text, and answers how many there are; the rest of the tape is 0. */
     static int feed(TokenHall hall, String text) {
         byte[] bytes = text.getBytes(StandardCharsets.ISO_8859_1);

@@ -19,6 +19,8 @@ public final class ClockEdgesTest {
         momentsToldOf();
         beganInThem();
         firstThatComesAgain();
+        farBeyondItsRound();
+        eightAndEight();
         byTwoThousand();
         periodRefused();
         draws();
@@ -289,6 +291,53 @@ public final class ClockEdgesTest {
         Checks.same("of 4 and 6: often", both.beat(1), 2);
     }
 
+    /** The mark goes from place 0 to 1, 2, 3, and from there by 0 to 1 in one moment: rounds of 3 from the second on. */
+    private static void farBeyondItsRound() {
+        Checks.of("It goes on so");
+        String text = "place 1;place 0;place 0;place 0;act 0;act 0;act 0;act 0;in 0 3 1;out 0 0 1;in 1 2 1;out 1 3 1;"
+                + "in 2 1 1;out 2 2 1;in 3 0 1;out 3 1 1;";
+        for (int m : new int[] {0, 1, 2, 3, 4, 5, 6, 7, 8, 9, 100, 101, 102, 1998, 1999, 2000}) {
+            TokenHall h = Checks.hall(text);
+            int at = m == 0 ? 0 : 1 + (m - 1) % 3;
+            for (int p = 0; p < 4; p++) {
+                Checks.same("moment " + m + " place " + p, h.clock(m, p), p == at ? 1 : 0);
+            }
+            int[] due = {m == 0 ? 0 : (m - 1) / 3, m / 3, (m + 1) / 3, m == 0 ? 0 : 1 + (m - 1) / 3};
+            for (int t = 0; t < 4; t++) {
+                Checks.same("moment " + m + " act " + t, h.began(m, t), due[t]);
+            }
+            Checks.same("its round begins", h.period(0), 1);
+            Checks.same("its round", h.period(1), 3);
+            Checks.same("moment " + m + " again", h.clock(m, at), 1);
+            Checks.same("moment " + m + " began again", h.began(m, 3), due[3]);
+            Checks.tell(h, "place 0;act 0;out 0 0 1;lasts 0 20;");
+            Checks.same("none in another net", h.period(0), NONE);
+            Checks.same("none in another net", h.beat(0), NONE);
+        }
+    }
+
+    /** Acts of which each gives every so many moments, up to 8 places and 8 acts. */
+    private static void eightAndEight() {
+        Checks.of("(MARKS, and how long each is at work yet, as a MOMENT begins)");
+        int[] lasts = {3, 4, 5, 7, 9, 11, 13, 20};
+        StringBuilder text = new StringBuilder("place 0;".repeat(8) + "act 0;".repeat(8));
+        for (int t = 0; t < 8; t++) {
+            text.append("out ").append(t).append(' ').append(t).append(" 1;lasts ").append(t).append(' ').append(lasts[t]);
+            text.append(';');
+        }
+        TokenHall h = Checks.hall(text.toString());
+        Checks.same("no round", h.period(0), NONE);
+        for (int m : new int[] {0, 1, 21, 1000, 2000}) {
+            for (int t = 0; t < 8; t++) {
+                Checks.same("given by act " + t + " in " + m, h.clock(m, t), m == 0 ? 0 : (m - 1) / lasts[t]);
+                Checks.same("begun by act " + t + " in " + m, h.began(m, t), m == 0 ? 0 : 1 + (m - 1) / lasts[t]);
+            }
+        }
+        TokenHall once = Checks.hall(text.toString().replace("place 0;", "place 1 room 1;").replace("out ", "in "));
+        Checks.same("each is done once", once.period(0), 21);
+        Checks.same("then nothing", once.period(1), 1);
+    }
+
     private static String slowly(int last) {
         return "place 0;place 0;place 0 room " + last + ";place 1;act 0;act 0;act 0;act 0;out 0 0 1;out 1 1 1;out 2 2 1;"
                 + "if 1 marks 0=999;if 2 marks 1=999;in 3 3 1;out 3 3 1;lasts 3 2;if 3 marks 2=" + last + ";";
@@ -353,10 +402,10 @@ public final class ClockEdgesTest {
             due[act]++;
         }
         TokenHall h = counting(set);
-        Checks.same("lots(" + n + ", " + seed + ") of " + set, h.lots(n, seed), n);
         for (int p = 0; p < 8; p++) {
             Checks.same("lot(" + n + ", " + seed + ", " + p + ") of " + set, h.lot(n, seed, p), due[p]);
         }
+        Checks.same("lots(" + n + ", " + seed + ") of " + set, h.lots(n, seed), n);
     }
 
     private static void draws() {

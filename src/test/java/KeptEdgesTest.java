@@ -1,3 +1,5 @@
+import java.util.Random;
+
 /** The edges of what is kept, growth, siphons and looks (==== 3. of the document), and of promises 26 to 34. */
 public final class KeptEdgesTest {
     private static final int NONE = -1;
@@ -9,6 +11,7 @@ public final class KeptEdgesTest {
         reducedForm();
         emptyAndWholeBases();
         exactNumbers();
+        denseNets();
         basesAndRows();
         nevers();
         growthAtFirst();
@@ -120,6 +123,48 @@ public final class KeptEdgesTest {
             due = due / 5 * 4;
         }
         Checks.same("no rounds", h.base(1), 0);
+    }
+
+    /** 7 places and 6 acts with arcs between all of them: each row by what the document asks of it. */
+    private static void denseNets() {
+        Random chance = new Random(3);
+        for (int round = 0; round < 20; round++) {
+            StringBuilder text = new StringBuilder("place 0;".repeat(7) + "act 0;".repeat(6));
+            long[][] change = new long[6][7];
+            for (int t = 0; t < 6; t++) {
+                for (int p = 0; p < 7; p++) {
+                    int n = 1 + chance.nextInt(5);
+                    boolean takes = chance.nextBoolean();
+                    change[t][p] = takes ? -n : n;
+                    text.append(takes ? "in" : "out").append(t).append(' ').append(p).append(' ').append(n).append(';');
+                }
+            }
+            TokenHall h = Checks.hall(text.toString());
+            Checks.same("one row", h.base(0), 1);
+            Checks.same("no round", h.base(1), 0);
+            long common = 0;
+            long lead = 0;
+            for (int p = 0; p < 7; p++) {
+                lead = lead == 0 ? h.kept(0, p) : lead;
+                common = gcd(common, Math.abs(h.kept(0, p)));
+            }
+            Checks.same("nothing divides it", common, 1);
+            Checks.same("it begins above 0", lead > 0, true);
+            for (int t = 0; t < 6; t++) {
+                long sum = 0;
+                for (int p = 0; p < 7; p++) {
+                    sum += change[t][p] * h.kept(0, p);
+                }
+                Checks.same("the sum with act " + t, sum, 0);
+            }
+        }
+        kept(Checks.hall("place 0;place 0;place 0;act 0;act 0;in 0 0 1;out 0 2 1;in 1 1 1;out 1 2 1;"), row(1, 1, 1));
+        rounds(Checks.hall("place 0;place 0;act 0;act 0;act 0;in 0 0 1;out 2 0 1;in 1 1 1;out 2 1 1;"), row(1, 1, 1));
+        kept(Checks.hall("place 0;place 0;place 0;act 0;act 0;out 0 2 1;out 1 2 1;"), row(1, 0, 0), row(0, 1, 0));
+    }
+
+    private static long gcd(long one, long other) {
+        return other == 0 ? one : gcd(other, one % other);
     }
 
     private static void basesAndRows() {
@@ -399,6 +444,10 @@ public final class KeptEdgesTest {
         TokenHall leak = Checks.hall("place 5;place 0;act 0;act 0;act 0;in 0 0 1;out 0 1 1;in 1 1 1;out 1 0 1;in 2 0 1;");
         Checks.same("a siphon", leak.is(3, 0), true);
         Checks.same("no trap within", leak.is(3, 2), false);
+        TokenHall single = Checks.hall("place 1;act 0;in 0 0 1;out 0 0 1;");
+        Checks.same("one place, one mark", single.is(1, 2), true);
+        single.put(0, 0);
+        Checks.same("one place, no mark", single.is(1, 2), false);
         TokenHall part = Checks.hall("place 5;place 0;act 0;in 0 0 1;out 0 1 1;in 0 1 1;");
         Checks.same("a trap without marks within", part.is(2, 2), false);
         Checks.same("the whole has marks", part.is(3, 2), true);
@@ -454,6 +503,10 @@ public final class KeptEdgesTest {
         String plain = "place 0;place 0;act 0;act 0;lasts 1 5;";
         Checks.same("none has", look(plain, 8), 8);
         Checks.same("a bar", look(plain + "bar 1 1 99;", 8), 0);
+        Checks.same("the first bar", look(plain + "bar 0 0 1;", 8), 0);
+        Checks.same("the last bar", look("place 0;".repeat(8) + "act 0;".repeat(8) + "bar 7 7 1;", 8), 0);
+        Checks.same("the first condition", look(plain + "if 0 1=1;", 8), 0);
+        Checks.same("the first room", look("place 0 room 1;place 0;act 0;", 8), 0);
         Checks.same("a condition", look(plain + "if 1 1=1;", 8), 0);
         Checks.same("room", look(plain + "place 0 room 99;", 8), 0);
         Checks.of("16: all take and give 1; together.");
@@ -461,6 +514,11 @@ public final class KeptEdgesTest {
         Checks.same("none takes or gives", look(plain, 16), 16);
         Checks.same("one takes 2", look(plain + "in 1 1 2;", 16), 0);
         Checks.same("one gives 2", look(plain + "out 1 1 2;", 16), 0);
+        Checks.same("the first takes 2", look(plain + "in 0 0 2;", 16), 0);
+        Checks.same("the first gives 2", look(plain + "out 0 0 2;", 16), 0);
+        Checks.same("the last gives 2", look("place 0;".repeat(8) + "act 0;".repeat(8) + "out 7 7 2;", 16), 0);
+        Checks.same("1 is not among them", Checks.hall("place 1;place 0;act 0;in 0 0 1;in 0 1 1;out 0 0 1;out 0 1 1;").looks(), 30);
+        Checks.same("2 is not among them", Checks.hall("place 1;act 0;act 0;in 0 0 1;out 0 0 1;in 1 0 1;out 1 0 1;").looks(), 29);
         Checks.same("all at once", Checks.hall("place 1;act 0;in 0 0 1;out 0 0 1;").looks(), 31);
         Checks.same("only 16", Checks.hall("place 1 room 9;place 1;act 0;act 0;in 0 0 1;in 1 0 1;in 1 1 1;").looks(), 16);
         Checks.same("none", Checks.hall("place 1 room 9;place 1;act 0;act 0;in 0 0 1;in 1 0 2;in 1 1 1;").looks(), 0);

@@ -1,3 +1,8 @@
+import java.util.ArrayList;
+import java.util.Collections;
+import java.util.List;
+import java.util.Random;
+
 /** The edges of what stands under ==== 5. of the document, and of promises 43 to 50. */
 public final class LastEdgesTest {
     private static final int NONE = -1;
@@ -19,6 +24,7 @@ public final class LastEdgesTest {
         leastNumber();
         likenessOfPlaces();
         likenessOfActs();
+        likenessByTrying();
         likenessNoMatter();
         images();
         imagesOfAll();
@@ -187,6 +193,7 @@ public final class LastEdgesTest {
             Checks.same(n + " places alike", Checks.hall("place 3;".repeat(n) + "act 0;").alike(), due);
         }
         Checks.same("that as told alone", Checks.hall("place 0;place 1;place 2;act 0;").alike(), 1);
+        Checks.same("each once", Checks.hall("place 0;place 0;place 0;act 0;act 0;in 0 0 1;in 0 1 1;in 1 2 1;").alike(), 2);
         Checks.of("first MARKS as told, rooms, what is taken, given, barred");
         String two = "place 1;place 1;act 0;";
         Checks.same("alike", Checks.hall(two).alike(), 2);
@@ -219,6 +226,107 @@ public final class LastEdgesTest {
             ring.append("out ").append(i).append(' ').append((i + 1) % 8).append(" 1;");
         }
         Checks.same("a ring of 8", Checks.hall(ring.toString()).alike(), 8);
+    }
+
+    /** What likeness looks at, read once: of each act what is its own, then its arcs to each place; of each place its own. */
+    private static String[][] read(TokenHall h) {
+        int places = h.told(0);
+        int acts = h.told(1);
+        String[][] seen = new String[acts + 1][places + 1];
+        for (int t = 0; t < acts; t++) {
+            seen[t][places] = h.act(t, 0) + " " + h.act(t, 1);
+            for (int p = 0; p < places; p++) {
+                seen[t][p] = h.arc(t, p, 0) + "/" + h.arc(t, p, 1) + "/" + h.arc(t, p, 2);
+            }
+        }
+        for (int p = 0; p < places; p++) {
+            seen[acts][p] = h.marks(p, 0) + "/" + h.marks(p, 1);
+        }
+        return seen;
+    }
+
+    /** The net with a row of places put for its places, its acts in an order of their own. */
+    private static String withRow(String[][] seen, List<Integer> row) {
+        List<String> all = new ArrayList<>();
+        for (String[] act : seen) {
+            StringBuilder whole = new StringBuilder().append(act[act.length - 1]);
+            for (int place : row) {
+                whole.append(' ').append(act[place]);
+            }
+            all.add(whole.toString());
+        }
+        String ofPlaces = all.remove(all.size() - 1);
+        Collections.sort(all);
+        return all + ofPlaces;
+    }
+
+    private static int tried(String[][] seen, List<Integer> row, String due) {
+        int places = seen[0].length - 1;
+        if (row.size() == places) {
+            return withRow(seen, row).equals(due) ? 1 : 0;
+        }
+        int count = 0;
+        for (int place = 0; place < places; place++) {
+            if (!row.contains(place)) {
+                row.add(place);
+                count += tried(seen, row, due);
+                row.remove(row.size() - 1);
+            }
+        }
+        return count;
+    }
+
+    private static void likenessByTrying() {
+        Checks.of("so that, the k-th put for PLACE k, the NET is the same");
+        String five = "place 1;place 1;place 1;place 1;place 1;act 0;act 0;act 0;act 0;act 0;";
+        String[] arcs = {
+            "", "in 0 0 1;in 1 1 1;in 2 2 1;in 3 3 1;in 4 4 1;", "in 0 0 1;in 0 1 1;in 1 2 1;in 1 3 1;",
+            "in 0 0 1;out 0 1 1;in 1 1 1;out 1 2 1;in 2 2 1;out 2 0 1;in 3 3 1;out 3 4 1;in 4 4 1;out 4 3 1;",
+            "in 0 0 1;out 0 1 1;in 1 1 1;out 1 2 1;in 2 2 1;out 2 3 1;in 3 3 1;out 3 4 1;in 4 4 1;out 4 0 1;",
+            "in 0 0 1;out 0 1 1;in 1 1 1;out 1 2 1;in 2 2 1;out 2 3 1;in 3 3 1;out 3 4 1;",
+            "in 0 0 1;in 0 1 1;in 1 1 1;in 1 2 1;in 2 2 1;in 2 3 1;in 3 3 1;in 3 4 1;in 4 4 1;in 4 0 1;",
+            "in 0 0 1;in 0 1 1;in 1 1 1;in 1 2 1;in 2 2 1;in 2 3 1;in 3 3 1;in 3 4 1;",
+            "in 0 0 1;in 0 1 1;in 1 1 1;in 1 2 1;in 2 2 1;in 2 0 1;in 3 3 1;in 3 4 1;",
+            "in 0 0 1;out 0 1 1;in 1 0 1;out 1 2 1;in 2 0 1;out 2 3 1;in 3 0 1;out 3 4 1;",
+            "in 0 0 1;out 0 1 1;in 1 1 1;out 1 0 1;in 2 2 1;out 2 3 1;in 3 3 1;out 3 2 1;bar 4 4 1;",
+            "bar 0 0 1;bar 0 1 1;bar 0 2 1;bar 1 2 1;bar 1 3 1;bar 1 4 1;lasts 2 1;",
+            "in 0 0 1;out 0 1 1;in 1 1 1;out 1 2 1;in 2 2 1;out 2 0 1;bar 0 0 1;", "in 0 1 1;in 1 2 1;in 2 3 1;in 2 1 1;",
+            "in 0 0 4;out 0 1 2;bar 0 2 1;in 1 1 4;out 1 0 2;bar 1 2 1;", "in 0 0 1;bar 0 1 64;out 0 2 1;",
+        };
+        for (String text : arcs) {
+            judgeLikeness(five + text);
+        }
+        Random chance = new Random(8);
+        for (int i = 0; i < 300; i++) {
+            judgeLikeness(five + turnedArcs(chance, i % 3 == 0 ? 4 : 5));
+        }
+    }
+
+    /** Arcs of an act, told again for each further act with all places moved on by one. */
+    private static String turnedArcs(Random chance, int acts) {
+        int[] first = new int[10];
+        for (int i = 0; i < 10; i++) {
+            first[i] = Math.max(0, chance.nextInt(6) - 2);
+        }
+        int turning = 2 + chance.nextInt(4);
+        StringBuilder text = new StringBuilder();
+        for (int t = 0; t < acts; t++) {
+            for (int i = 0; i < 10; i++) {
+                int place = i / 2 < turning ? (i / 2 + t) % turning : i / 2;
+                if (first[i] > 0) {
+                    text.append(i % 2 == 0 ? "in " : "out ").append(t).append(' ').append(place).append(' ');
+                    text.append(first[i]).append(';');
+                }
+            }
+        }
+        return text.toString();
+    }
+
+    private static void judgeLikeness(String text) {
+        TokenHall h = Checks.hall(text);
+        String[][] seen = read(h);
+        String asTold = withRow(seen, List.of(0, 1, 2, 3, 4));
+        Checks.same("likeness of '" + text + "'", h.alike(), tried(seen, new ArrayList<>(), asTold));
     }
 
     private static void likenessNoMatter() {

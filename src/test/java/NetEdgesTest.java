@@ -272,7 +272,14 @@ public final class NetEdgesTest {
         Checks.faultAt(IF + "1=1 and ", ";", 1);
         Checks.faultAt(IF, "and 1=1;", 1);
         Checks.of("B: \"not\" B, \"[\" C \"]\", or E R E; R: <, > or =");
+        Checks.same("not of what holds", judged("not 1=1"), 3);
+        Checks.same("not of what does not hold", judged("not 1=2"), 0);
+        Checks.same("not of more", judged("not 2>1"), 3);
+        Checks.same("not of less", judged("not 1<2"), 3);
+        Checks.same("not twice", judged("not not 1=1") + judged("not not not 1=2"), 0);
         Checks.same("not of one B alone", judged("not 1=2 and 1=2"), 3);
+        Checks.same("of all kinds together", judged("2>1 and 1<2 and 1=1 and not 1=2"), 0);
+        Checks.same("of all kinds, none", judged("1>2 or 2<1 or 1=2 or not 1=1"), 3);
         Checks.same("not of a bracket", judged("not [1=2 and 1=2]"), 0);
         relation('<', 0, 3, 3);
         relation('=', 3, 0, 3);
@@ -281,7 +288,16 @@ public final class NetEdgesTest {
         Checks.faultAt(IF + "1", "!1;", 1);
         Checks.faultAt(IF + "1<", "=1;", 1);
         Checks.of("E: U { + or - U }. U: N (0 to 9,999), \"marks\" P, or \"(\" E \")\"");
+        Checks.same("a sum", judged("2+3=5"), 0);
+        Checks.same("a sum, one less", judged("2+3=4"), 3);
+        Checks.same("a sum, one more", judged("2+3=6"), 3);
+        Checks.same("a sum of marks", judged("marks 0+marks 0=10"), 0);
+        Checks.same("a difference", judged("7-4=3"), 0);
+        Checks.same("a difference, one more", judged("7-4=4"), 3);
+        Checks.same("both sides", judged("1+2<5-1"), 0);
+        Checks.same("both sides, not less", judged("1+3<5-1"), 3);
         Checks.same("from left to right", judged("9-5-3=1"), 0);
+        Checks.same("from left to right alone", judged("9-5-3=7"), 3);
         Checks.same("below 0", judged("0-9999<0") + judged("1-2+1=0"), 0);
         Checks.same("a bracket", judged("9-(5-3)=7") + judged("(marks 0)=5"), 0);
         Checks.faultAt(IF + "1+", "+1=1;", 1);
@@ -322,13 +338,22 @@ public final class NetEdgesTest {
         Checks.of("WORDS: small letters, as many as stand there");
         String[] unknown = {
             "plac", "places", "placeact", "Place", "PLACE", "a", "z", "ac", "acts", "i", "inn", "ins", "ba", "bars",
-            "o", "ou", "outs", "last", "lastss", "iff", "room", "marks", "not",
+            "o", "ou", "outs", "last", "lastss", "iff", "room", "marks", "not", "blace", "placd", "plaze", "ect", "acd",
+            "an", "im", "aut", "ouu", "car", "baz", "masts", "lastt", "of", "id", "actz", "zact", "aact", "barz",
         };
         for (String word : unknown) {
             Checks.faultAt(BOTH, word + " 0 0 1;", 1);
         }
         Checks.faultAt("act 0;place 0 ", "rooms 5;", 1);
         Checks.faultAt("act 0;place 0 ", "roo 5;", 1);
+        Checks.faultAt("act 0;place 0 ", "boom 5;", 1);
+        Checks.faultAt("act 0;place 0 ", "roon 5;", 1);
+        for (String word : new String[] {"larks 0=0;", "markz 0=0;", "hot 1=1;", "nos 1=1;"}) {
+            Checks.faultAt(IF, word, 1);
+        }
+        for (String word : new String[] {"ar 1=1;", "os 1=1;", "end 1=1;", "ant 1=1;", "andz 1=1;"}) {
+            Checks.faultAt(IF + "1=1 ", word, 1);
+        }
         Checks.faultAt(IF, "mark 0=0;", 1);
         Checks.faultAt(IF, "notmarks 0=0;", 1);
         Checks.faultAt(IF + "1=1 ", "orr 1=1;", 1);
@@ -451,6 +476,9 @@ public final class NetEdgesTest {
         Checks.good(IF + "[[[[[[1=1]]]]]]or[[[[[[1=1]]]]]];", 1);
         Checks.good(IF + "[[[[[[1=1]]]]]];if 0 [[[[[[1=1]]]]]];", 1);
         Checks.same("six are read right", judged("not [not [not [1=2]]]"), 0);
+        TokenHall h = new TokenHall();
+        Checks.tell(h, IF + "[[[[[[[");
+        Checks.same("six behind a fault", Checks.tell(h, IF + "[[[[[[1=1]]]]]];"), 1);
     }
 
     private static void notTillItsEnd() {

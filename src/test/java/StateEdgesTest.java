@@ -15,6 +15,8 @@ public final class StateEdgesTest {
         theToldNumber();
         oneState();
         threeThousand();
+        roundAndRound();
+        fewerThanBefore();
         fullOrNot();
         orderOfStates();
         marksInStates();
@@ -115,6 +117,64 @@ public final class StateEdgesTest {
         TokenHall box = Checks.hall("place 0 room 99;place 0 room 29;act 0;act 0;out 0 0 1;out 1 1 1;");
         Checks.same("3,000 at many depths", box.states(3000), 3000);
         Checks.same("one fewer", box.states(2999), FULL);
+    }
+
+    /** 8 places in a ring, 6 marks: 1,716 states, each of which can be come to from all. */
+    private static void roundAndRound() {
+        Checks.of("HOME is a STATE that can be come to from all");
+        StringBuilder text = new StringBuilder("place 6;" + "place 0;".repeat(7) + "act 1;".repeat(8));
+        for (int i = 0; i < 8; i++) {
+            text.append("in ").append(i).append(' ').append(i).append(" 1;");
+            text.append("out ").append(i).append(' ').append((i + 1) % 8).append(" 1;");
+        }
+        TokenHall h = Checks.hall(text.toString());
+        Checks.same("one too few", h.states(1715), FULL);
+        Checks.same("just so many", h.states(1716), 1716);
+        Checks.same("all are home", h.home(1716, 0), 1716);
+        Checks.same("as they are", h.home(1716, 1), 1);
+        Checks.same("one knot", h.home(1716, 2), 1);
+        Checks.same("none is dead", h.dead(1716, 0), NONE);
+        for (int act = 0; act < 8; act++) {
+            Checks.same("all live", h.lives(1716, act), 2);
+            Checks.same("without end", h.often(1716, act), NONE);
+        }
+        Checks.same("the deepest", h.deepest(1716, 0), 42);
+        h.goal(7, 6);
+        Checks.same("the way there", h.way(1716, false), 42);
+        Checks.same("its cost", h.cheapest(1716, false), 42);
+        Checks.same("the last act but one is needed", h.needed(1716, false, 6), 1);
+        Checks.same("the last act is not", h.needed(1716, false, 7), 0);
+        h.goal(7, 5);
+        Checks.same("none such", h.cheapest(1716, false), NONE);
+        Checks.same("none such, again", h.cheapest(1716, false), NONE);
+    }
+
+    /** States of a greater number than now are seen in no answer. */
+    private static void fewerThanBefore() {
+        Checks.of("COME can, from those as they are on");
+        TokenHall h = Checks.hall("place 9;act 1;in 0 0 1;");
+        Checks.same("ten", h.states(10), 10);
+        Checks.same("nine deep", h.deepest(10, 0), 9);
+        h.goal(0, 7);
+        Checks.same("two to 7", h.way(10, false), 2);
+        Checks.same("cost 2", h.cheapest(10, false), 2);
+        Checks.same("often 9", h.often(10, 0), 9);
+        h.put(0, 1);
+        Checks.same("two", h.states(10), 2);
+        Checks.same("no 7", h.way(10, false), NONE);
+        Checks.same("no 7 or more", h.way(10, true), NONE);
+        Checks.same("no cost of 7", h.cheapest(10, false), NONE);
+        Checks.same("not needed for 7", h.needed(10, false, 0), NONE);
+        Checks.same("one deep", h.deepest(10, 0), 1);
+        Checks.same("state 1", h.deepest(10, 1), 1);
+        Checks.same("no state 2", h.state(10, 2, 0), NONE);
+        Checks.same("one dead", h.dead(10, 0), 1);
+        Checks.same("no other", h.dead(10, 1), NONE);
+        Checks.same("most 1", h.most(10, 0), 1);
+        Checks.same("often 1", h.often(10, 0), 1);
+        Checks.same("one knot", h.home(10, 2), 1);
+        Checks.same("one row of 1", h.rows(10, 1), 1);
+        Checks.same("none of 2", h.rows(10, 2), 0);
     }
 
     private static void fullOrNot() {
@@ -357,6 +417,14 @@ public final class StateEdgesTest {
         TokenHall free = Checks.hall("place 0;act 0;out 0 0 1;bar 0 0 9;");
         free.goal(0, 9);
         Checks.same("acts that cost nothing", free.cheapest(10, false), 0);
+        TokenHall fan = Checks.hall("place 1;place 0;place 0;place 0;place 0;act 10;act 10;act 10;act 5;act 1;"
+                + "in 0 0 1;out 0 1 1;in 1 0 1;out 1 2 1;in 2 0 1;out 2 3 1;in 3 0 1;out 3 4 1;in 4 4 1;out 4 2 1;");
+        int[] due = {0, 10, 6, 10, 5};
+        for (int p = 0; p < 5; p++) {
+            fan.goal(p, 1);
+            Checks.same("one that becomes cheaper among like ones, " + p, fan.cheapest(5, false), due[p]);
+            fan.goal(p, 0);
+        }
         TokenHall most = Checks.hall("place 0;act 99;out 0 0 1;");
         most.goal(0, 99);
         Checks.same("99 times 99", most.cheapest(1000, false), 99 * 99);

@@ -15,6 +15,7 @@ public final class ToldEdgesTest {
         firstBytes();
         emptyThen();
         rowsAndImagesGone();
+        asIfItWereTheFirst();
         howManyPlaces();
         faultLessTen();
         netStays();
@@ -222,6 +223,41 @@ public final class ToldEdgesTest {
         fresh.image();
         Checks.tell(fresh, TEXT);
         Checks.same("an image from before the first net", fresh.restore(), -1);
+    }
+
+    /** What a hall heard before, with or without faults, is not seen in what it answers. */
+    private static void asIfItWereTheFirst() {
+        Checks.of("The first n bytes of the TAPE (empty then) are the NET");
+        String[] texts = {
+            "place 9;place 9;place 9;place 9;act 9;act 8;act 7;in 0 0 1;in 1 1 2;out 1 2 3;in 2 2 1;out 2 3 1;bar 0 1 50;"
+                    + "lasts 1 3;lasts 2 5;if 0 marks 0>2 or marks 1=0;if 2 1=1;",
+            "place 1;act 0;",
+            "place 2;place 0;act 3;act 0;in 0 0 1;out 0 1 1;in 1 1 1;out 1 0 1;lasts 0 2;",
+            "place 1;place 0 room 5;act 1;out 0 0 1;in 0 1 1;if 0 [[[[[[marks 1<4]]]]]];",
+            "place 3;act 2;act 1;in 0 0 1;",
+            "place 2;place 0;place 0;act 0;act 0;in 0 0 1;out 0 1 1;in 1 0 1;out 1 2 1;",
+            "place 0;place 0;place 0;act 0;out 0 0 1;out 0 1 1;out 0 2 1;",
+            "place 1;place 1;place 1;act 0;act 0;act 0;if 1 1=2;",
+        };
+        String[] faulty = {"place 9 room 9;act 9;in 0 0 5;out 0 0 5;bar 0 0 9;if 0 [[[[[[1=1", "place 9;".repeat(9)};
+        for (String first : texts) {
+            for (String second : texts) {
+                for (String third : texts) {
+                    TokenHall h = Checks.hall(first);
+                    h.goal(h.told(0) - 1, 1);
+                    String heard = Checks.answers(h);
+                    Checks.tell(h, second);
+                    Checks.tell(h, faulty[third.length() % 2]);
+                    Checks.tell(h, third);
+                    h.goal(h.told(0) - 1, 1);
+                    TokenHall fresh = Checks.hall(third);
+                    fresh.goal(fresh.told(0) - 1, 1);
+                    String due = Checks.answers(fresh);
+                    Checks.same("'" + third + "' behind '" + second + "'", Checks.answers(h).equals(due), true);
+                    Checks.same("'" + first + "' and '" + third + "'", heard.equals(due), first.equals(third));
+                }
+            }
+        }
     }
 
     private static void howManyPlaces() {
