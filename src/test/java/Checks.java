@@ -37,6 +37,13 @@ final class Checks {
         same(what, got ? 1 : 0, due ? 1 : 0);
     }
 
+    static void same(String what, String got, String due) {
+        judged++;
+        if (!got.equals(due)) {
+            tellWrong(what + " answered " + got + ", due is " + due);
+        }
+    }
+
     static void fails(String what, Class<? extends RuntimeException> due, Runnable call) {
         judged++;
         String got = "nothing";

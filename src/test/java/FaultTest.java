@@ -47,25 +47,27 @@ public final class FaultTest {
         int good = 0;
         for (int i = 0; i < TEXTS && Checks.fine(); i++) {
             String text = spoiled(chance, new Model(chance, 8, 8, 5).text());
-            int fault = 0;
-            int at = -1;
-            FaultTest reader = new FaultTest(text);
-            try {
-                reader.net();
-                good++;
-            } catch (Stop stop) {
-                fault = stop.fault;
-                at = stop.at;
-            }
-            int answer = Checks.tell(hall, text);
-            Checks.same("net of '" + text + "'", answer, fault == 0 ? reader.places : fault - 10);
-            Checks.same("fault of '" + text + "'", hall.fault(), at);
+            int[] due = read(text);
+            good += due[0] > 0 ? 1 : 0;
+            Checks.same("net of '" + text + "'", Checks.tell(hall, text), due[0]);
+            Checks.same("fault of '" + text + "'", hall.fault(), due[1]);
         }
         Checks.same("some texts are good, some not", good > TEXTS / 20 && good < TEXTS * 19 / 20, true);
         Checks.end();
     }
 
-    private static String spoiled(Random chance, String text) {
+    /** What net() and fault() are to answer for a text. */
+    static int[] read(String text) {
+        FaultTest reader = new FaultTest(text);
+        try {
+            reader.net();
+        } catch (Stop stop) {
+            return new int[] {stop.fault - 10, stop.at};
+        }
+        return new int[] {reader.places, -1};
+    }
+
+    static String spoiled(Random chance, String text) {
         StringBuilder s = new StringBuilder(text);
         for (int n = chance.nextInt(4); n > 0; n--) {
             int at = chance.nextInt(s.length() + 1);

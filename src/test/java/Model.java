@@ -49,6 +49,18 @@ final class Model {
         }
     }
 
+    /** No net: no places, no acts. */
+    Model() {
+        chance = new Random(0);
+        told = new int[0];
+        room = new int[0];
+        cost = new int[0];
+        lasts = new int[0];
+        in = new int[0][0];
+        out = new int[0][0];
+        bar = new int[0][0];
+    }
+
     String text() {
         return text.toString();
     }
