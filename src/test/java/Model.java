@@ -1,4 +1,6 @@
 import java.util.ArrayList;
+import java.util.Arrays;
+import java.util.Collections;
 import java.util.List;
 import java.util.Random;
 import java.util.function.Predicate;
@@ -59,6 +61,39 @@ final class Model {
         in = new int[0][0];
         out = new int[0][0];
         bar = new int[0][0];
+    }
+
+    /** As many arcs as a text has clauses for, with numbers as large as can be: what is kept then has large numbers. */
+    static Model crowded(Random chance, int places, int acts) {
+        Model all = new Model();
+        all.places = places;
+        all.acts = acts;
+        all.told = new int[places];
+        all.room = new int[places];
+        Arrays.fill(all.room, 999);
+        all.cost = new int[acts];
+        all.lasts = new int[acts];
+        all.in = new int[acts][places];
+        all.out = new int[acts][places];
+        all.bar = new int[acts][places];
+        all.text.append("place 0;".repeat(places)).append("act 0;".repeat(acts));
+        List<Integer> cells = new ArrayList<>();
+        for (int cell = 0; cell < places * acts; cell++) {
+            cells.add(cell);
+        }
+        Collections.shuffle(cells, chance);
+        for (int i = 0; i < Math.min(cells.size(), 60 - places - acts); i++) {
+            int t = cells.get(i) / places;
+            int p = cells.get(i) % places;
+            boolean takes = chance.nextBoolean();
+            int n = 3 + chance.nextInt(3);
+            (takes ? all.in : all.out)[t][p] = n;
+            all.arc(takes ? "in" : "out", t, p, n);
+        }
+        for (int t = 0; t < acts; t++) {
+            all.conditions.add(null);
+        }
+        return all;
     }
 
     String text() {
